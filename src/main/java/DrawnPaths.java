@@ -403,9 +403,7 @@ public final class DrawnPaths {
 
         Field(Blocks blocks) {
             this.blocks = blocks;
-            for (int place = 0; place < PLACES; place++) {
-                signs[place] = BLANK;
-            }
+            wipe();
         }
 
         void write(int place, char c) {

@@ -7,7 +7,10 @@ public final class BlocksTest {
         stepsMakeNone();
         sizes();
         behindABlock();
+        behindAnAct();
         coveredPlaces();
+        everyPlace();
+        madeAgain();
         dropping();
         dropsByWriting();
         keptWhenPassedOver();
@@ -80,6 +83,70 @@ public final class BlocksTest {
         DrawnPaths quoted = Check.started("           v", "v          <", ">\"");
         quoted.fast(1);
         CHECK.same("quoted behind it", "32 8 2 0 1", Check.block(quoted, 0, 0, 0, false));
+    }
+
+    private static void behindAnAct() {
+        DrawnPaths paths = Check.started("n12@");
+        paths.fast(3);
+        CHECK.same("the act begins none", DrawnPaths.NONE, paths.block(0, 0, 0, false, 0));
+        CHECK.same("what is behind it does", "2 3 0 0 0", Check.block(paths, 1, 0, 0, false));
+        CHECK.same("one block", 1, paths.count(2));
+    }
+
+    /** A pointer that is called to each place makes a block of that place alone. */
+    private static void everyPlace() {
+        for (int place = 0; place < 96; place++) {
+            int x = place % 12;
+            int y = place / 12;
+            DrawnPaths paths = new DrawnPaths();
+            for (int k = 0; k < 96; k++) {
+                paths.put(k % 12, k / 12, k == 0 || k == 1 ? 'i' : k == 2 ? 'C' : '@');
+            }
+            paths.input(x);
+            paths.input(y);
+            paths.start();
+            paths.step(3);
+            paths.put(x, y, '5');
+            paths.fast(1);
+            for (int k = 0; k < 96; k++) {
+                CHECK.same("covers " + k, k == place ? 1 : 0, paths.covers(k % 12, k / 12));
+            }
+            paths.put((x + 1) % 12, y, '6');
+            CHECK.same("kept", 1, paths.count(2));
+            paths.put(x, y, '6');
+            CHECK.same("dropped", 0, paths.count(2));
+        }
+    }
+
+    private static void madeAgain() {
+        DrawnPaths paths = Check.started("v@", "1", "2", "@");
+        paths.fast(2);
+        CHECK.same("two blocks", 2, paths.count(2));
+        paths.put(0, 0, '1');
+        CHECK.same("one is dropped", 1, paths.count(2));
+        paths.start();
+        paths.fast(1);
+        CHECK.same("one is made again", "1 1 0 0 0", Check.block(paths, 0, 0, 0, false));
+        CHECK.same("the other is as it was", "2 0 3 1 0", Check.block(paths, 0, 1, 1, false));
+        CHECK.same("it covers its place", 1, paths.covers(0, 0));
+        CHECK.same("and none that it had before", 1, paths.covers(0, 1));
+        paths.put(0, 0, '2');
+        paths.put(0, 1, '2');
+        CHECK.same("three dropped", 3, paths.count(3));
+        CHECK.same("none left", 0, paths.count(2));
+        bothHalvesAgain();
+    }
+
+    /** A block over the last rows is dropped; the one made in its stead covers none of them. */
+    private static void bothHalvesAgain() {
+        DrawnPaths paths = Check.started("^@", "@", "@", "@", "@", "@", "@");
+        paths.fast(1);
+        CHECK.same("over the last row", 1, paths.covers(0, 7));
+        paths.put(0, 0, '1');
+        paths.start();
+        paths.fast(1);
+        CHECK.same("one block", 1, paths.count(2));
+        CHECK.same("no longer over the last row", 0, paths.covers(0, 7));
     }
 
     private static void coveredPlaces() {

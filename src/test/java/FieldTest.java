@@ -10,6 +10,7 @@ public final class FieldTest {
         laying();
         layThatThrows();
         clearing();
+        clearingAStoppedRun();
         clearKeepsTextAndPage();
         CHECK.end();
     }
@@ -135,6 +136,18 @@ public final class FieldTest {
         paths.start();
         CHECK.same("a run over blanks", DrawnPaths.RUNNING, paths.step(25));
         CHECK.same("where it is", "1 0 0 0 [] 0", Check.pointer(paths, 0));
+    }
+
+    private static void clearingAStoppedRun() {
+        DrawnPaths paths = Check.started("iiiiiiiiiiii");
+        paths.input(5);
+        CHECK.same("stopped", 2, paths.step(1000));
+        CHECK.same("all read", 0, paths.count(4));
+        paths.clear();
+        CHECK.same("ended when cleared", DrawnPaths.ENDED, paths.count(5));
+        CHECK.same("no input when cleared", 0, paths.count(4));
+        paths.input(6);
+        CHECK.same("one not read", 1, paths.count(4));
     }
 
     private static void clearKeepsTextAndPage() {

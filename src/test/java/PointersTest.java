@@ -44,7 +44,7 @@ public final class PointersTest {
 
     private static void endsBeforeForks() {
         // The first pointer ends in the step in which the second one forks.
-        DrawnPaths first = Check.started("f   @", " ", "", "", "    ", "", "", "");
+        DrawnPaths first = Check.started("f   @");
         first.step(1);
         CHECK.same("the new one", "0 7 3 0 [0] 0", Check.pointer(first, 1));
         first.step(3);
@@ -105,19 +105,15 @@ public final class PointersTest {
     }
 
     private static void stackStops() {
-        String[] pushing = {"0", "9", "c"};
-        for (String sign : pushing) {
-            DrawnPaths paths = Check.started("7777777777", "");
-            paths.put(11, 0, sign.charAt(0));
-            int numbers = 0;
-            int state = DrawnPaths.RUNNING;
-            for (int k = 0; k < 60 && state == DrawnPaths.RUNNING; k++) {
-                numbers = paths.pointer(0, 4);
-                state = paths.step(1);
-            }
-            CHECK.same("state", 2, state);
-            CHECK.same("full", 24, numbers);
-            CHECK.same("as it was", 24, paths.pointer(0, 4));
+        String pushing = "0123456789ci";
+        for (int k = 0; k < pushing.length(); k++) {
+            DrawnPaths paths = Check.started("123456789999");
+            paths.step(24);
+            String full = Check.pointer(paths, 0);
+            paths.put(0, 0, pushing.charAt(k));
+            CHECK.same(pushing.charAt(k) + " on a full stack", 2, paths.step(1));
+            CHECK.same("as it was", full, Check.pointer(paths, 0));
+            CHECK.same("not counted", 24, paths.count(1));
         }
         DrawnPaths copying = Check.started("123456789999", "");
         copying.step(24);
@@ -137,17 +133,16 @@ public final class PointersTest {
             paths.put(0, 0, free.charAt(k));
             CHECK.same(free.charAt(k) + " on a full stack", DrawnPaths.RUNNING, paths.step(1));
         }
-        DrawnPaths room = Check.started("12345678999", "");
-        room.step(24);
-        CHECK.same("23", 22, room.pointer(0, 4));
-        room.put(0, 0, 'c');
-        room.put(1, 0, 'c');
+        DrawnPaths room = Check.started("123456789999", "");
+        room.step(23);
+        room.put(11, 0, 'c');
         CHECK.same("room for c", DrawnPaths.RUNNING, room.step(1));
+        CHECK.same("24 then", 24, room.pointer(0, 4));
     }
 
     private static void quotedStop() {
         DrawnPaths paths = Check.started("\"");
-        CHECK.same("23 of 24 steps", DrawnPaths.RUNNING, paths.step(12));
+        CHECK.same("once round", DrawnPaths.RUNNING, paths.step(12));
         CHECK.same("11 quoted", 11, paths.pointer(0, 4));
         paths.put(0, 0, 'a');
         CHECK.same("24 quoted", DrawnPaths.RUNNING, paths.step(13));
@@ -172,10 +167,9 @@ public final class PointersTest {
     }
 
     private static void outputStops() {
-        DrawnPaths paths = Check.started("77b");
-        CHECK.same("running", DrawnPaths.RUNNING, paths.step(9));
+        // One character in twelve steps.
         DrawnPaths full = Check.started("b");
-        CHECK.same("80 characters", DrawnPaths.RUNNING, full.step(948 + 1));
+        CHECK.same("80 characters", DrawnPaths.RUNNING, full.step(79 * 12 + 1));
         CHECK.same("80", 80, full.output());
         CHECK.same("one more", 3, full.step(1000));
         CHECK.same("80 still", 80, full.output());

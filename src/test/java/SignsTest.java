@@ -168,6 +168,8 @@ public final class SignsTest {
 
     private static void output() {
         writes("n", "7 0 -4 ", "7n0n4-n@");
+        after("behind n", 3, "3 0 0 0 [5] 0", "57n");
+        after("behind b", 3, "3 0 0 0 [5] 0", "57b");
         writes("b", "a~ ", "\"a~\"sb b0b@");
         DrawnPaths paths = Check.started("ibi b ib@");
         paths.input(-128 + 65);
@@ -255,11 +257,7 @@ public final class SignsTest {
         CHECK.same("one lives, others are gone", 1, many.count(0));
         CHECK.same("no returns", 0, many.pointer(0, 5));
         CHECK.same("no output", 0, many.output());
-        DrawnPaths stopped = Check.started("9");
-        stopped.put(1, 0, '^');
-        CHECK.same("running", DrawnPaths.RUNNING, stopped.step(2));
-        stopped.put(0, 0, 'C');
-        stopped.start();
+        DrawnPaths stopped = Check.started("C");
         CHECK.same("stopped", 2, stopped.step(1000));
         stopped.start();
         CHECK.same("no longer stopped", DrawnPaths.RUNNING, stopped.count(5));
