@@ -3,6 +3,7 @@ final class Check {
     private final String name;
     private int looked;
     private int wrong;
+    private String words = "";
 
     Check(String name) {
         this.name = name;
@@ -47,9 +48,24 @@ final class Check {
         raises(what, IllegalArgumentException.class, call);
     }
 
+    /** A test of one sentence of the document, which stands before each fault that it finds. */
+    void sentence(String sentence, Runnable test) {
+        int before = looked;
+        words = " [" + sentence + "]";
+        try {
+            test.run();
+        } catch (RuntimeException e) {
+            tell("threw " + e.getClass().getSimpleName() + ", due is nothing");
+        }
+        if (looked == before) {
+            tell("nothing was looked at");
+        }
+        words = "";
+    }
+
     void tell(String fault) {
         wrong++;
-        System.out.println(name + ": " + fault);
+        System.out.println(name + words + ": " + fault);
     }
 
     void end() {

@@ -33,9 +33,11 @@ public final class SameTest {
         for (int state = 0; state < 4; state++) {
             CHECK.same("state " + state + " was met", true, states[state] > 20);
         }
-        for (int seed = 0; seed < 3000; seed++) {
-            stepsAndFastDoTheSame(seed);
-        }
+        CHECK.sentence("Both do the same.", () -> {
+            for (int seed = 0; seed < 3000; seed++) {
+                stepsAndFastDoTheSame(seed);
+            }
+        });
         CHECK.end();
     }
 
