@@ -14,17 +14,27 @@ final class Pose {
         push(paths, numbers);
         int column = Math.floorMod(x - EAST[direction], 12);
         int row = Math.floorMod(y - SOUTH[direction], 8);
-        while (paths.pointer(0, 0) != column) {
-            paths.step(1);
-        }
+        walk(paths, 0, column);
         if (row != 0) {
             act(paths, 'v');
         }
-        while (paths.pointer(0, 1) != row) {
-            paths.step(1);
-        }
+        walk(paths, 1, row);
         act(paths, ARROWS[direction].charAt(0));
         return paths;
+    }
+
+    /** Goes on until what the pointer answers is as wanted; a broken program must not keep a test for good. */
+    private static void walk(DrawnPaths paths, int what, int want) {
+        for (int k = 0; k < 12 && paths.pointer(0, what) != want; k++) {
+            paths.step(1);
+        }
+    }
+
+    /** Pushes sixes until the k-th pointer has 24 numbers. */
+    static void fill(DrawnPaths paths, int k) {
+        for (int more = 24 - paths.pointer(k, 4); more > 0; more--) {
+            act(paths, k, '6');
+        }
     }
 
     static void push(DrawnPaths paths, long... numbers) {

@@ -1,3 +1,5 @@
+import java.util.Arrays;
+
 /** Promises 16 to 19, sentence by sentence: lost, output, length, charAt. */
 public final class PromisesLookTest {
     private static final Check CHECK = new Check("PromisesLookTest");
@@ -78,7 +80,7 @@ public final class PromisesLookTest {
         paths.put(2, 0, ' ');
         CHECK.same("no @ any more", "", lost(paths));
         Check.draw(paths, 0, "ab@cd");
-        CHECK.same("laid again", true, paths.lost(3, 0));
+        CHECK.same("laid again", "cd", lost(paths));
         DrawnPaths turning = Check.started("i10w@");
         turning.input('v');
         CHECK.same("none yet", false, turning.lost(2, 0));
@@ -126,6 +128,9 @@ public final class PromisesLookTest {
             loses("x", rows);
         }
         loses("", "?a@", "b", "@", "", "", "", "@", "c");
+        String[] full = new String[8];
+        Arrays.fill(full, "????????????");
+        loses("", full);
     }
 
     private static void toItsReturn() {

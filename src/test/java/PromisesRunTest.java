@@ -38,6 +38,10 @@ public final class PromisesRunTest {
             CHECK.same("where", n % 12 + " 0 0", Pose.place(paths, 0));
             CHECK.same("again", 0, go(paths, fast, n));
             CHECK.same("steps of two calls", 2 * n, paths.count(1));
+            DrawnPaths forking = Check.started(" f");
+            CHECK.same("state of " + n + " with forks", 0, go(forking, fast, n));
+            CHECK.same("steps of " + n + " with forks", n, forking.count(1));
+            CHECK.same("forks", n == 1 ? 1 : n < 10 ? 2 : n < 14 ? 3 : 4, forking.count(0));
         }
     }
 

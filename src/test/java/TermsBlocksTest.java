@@ -25,6 +25,7 @@ public final class TermsBlocksTest {
         CHECK.sentence("32 at most.", TermsBlocksTest::thirtyTwoSigns);
         CHECK.sentence("It is not empty.", TermsBlocksTest::notEmpty);
         CHECK.sentence("It COVERS the places of its signs", TermsBlocksTest::coversItsSigns);
+        CHECK.sentence("It COVERS the places of its signs", TermsBlocksTest::coversOnePlace);
         CHECK.sentence("(not one that # passes over).", TermsBlocksTest::passedOver);
     }
 
@@ -53,6 +54,7 @@ public final class TermsBlocksTest {
         CHECK.sentence(words, TermsBlocksTest::droppedByRuns);
         CHECK.sentence(words, TermsBlocksTest::droppedBySecondOnes);
         CHECK.sentence(words, TermsBlocksTest::keptAsTheyWere);
+        CHECK.sentence(words, TermsBlocksTest::madeAnew);
     }
 
     private static void acts() {
@@ -224,6 +226,23 @@ public final class TermsBlocksTest {
         DrawnPaths twice = Check.started("\"");
         twice.fast(1);
         CHECK.same("a place quoted and not", 1, twice.covers(7, 0));
+    }
+
+    private static void coversOnePlace() {
+        for (int place = 0; place < 96; place++) {
+            int x = place % 12;
+            int y = place / 12;
+            DrawnPaths paths = Pose.at(x, y, 0);
+            paths.put((x + 1) % 12, y, '@');
+            paths.fast(1);
+            for (int other = 0; other < 96; other++) {
+                CHECK.same(place + " covers " + other, other == place ? 1 : 0, paths.covers(other % 12, other / 12));
+            }
+            paths.put((x + 1) % 12, y, 'n');
+            CHECK.same("kept", 1, paths.count(2));
+            paths.put(x, y, '6');
+            CHECK.same("dropped", 0, paths.count(2));
+        }
     }
 
     private static void passedOver() {
@@ -534,5 +553,38 @@ public final class TermsBlocksTest {
         paths.start();
         paths.fast(1);
         CHECK.same("one that was dropped is made anew", "5 5 0 0 0", Check.block(paths, 0, 0, 0, false));
+    }
+
+    private static void madeAnew() {
+        // Over a column at first, then, when it was dropped, over 0, 0 alone.
+        DrawnPaths paths = Check.started("v@");
+        paths.fast(1);
+        paths.fast(1);
+        CHECK.same("two", 2, paths.covers(0, 6));
+        paths.put(0, 0, '1');
+        CHECK.same("both are dropped", 2, paths.count(3));
+        paths.start();
+        paths.fast(1);
+        CHECK.same("made anew", "1 1 0 0 0", Check.block(paths, 0, 0, 0, false));
+        CHECK.same("over 0, 0", 1, paths.covers(0, 0));
+        for (int y = 1; y < 8; y++) {
+            CHECK.same("no longer over row " + y, 0, paths.covers(0, y));
+        }
+        // Of three, the one in the midst is dropped; the others stay as they were, beside a new one.
+        DrawnPaths three = Check.started("12C", "3v@", " 4", " @");
+        three.fast(2);
+        three.put(2, 0, 'v');
+        three.put(2, 1, '<');
+        three.fast(1);
+        CHECK.same("the first", "2 2 0 0 0", Check.block(three, 0, 0, 0, false));
+        CHECK.same("the second", "4 1 3 1 0", Check.block(three, 2, 0, 0, false));
+        three.fast(2);
+        three.put(2, 1, '^');
+        CHECK.same("all over 2, 1 are dropped", 2, three.count(3));
+        three.fast(1);
+        CHECK.same("the first stays", "2 2 0 0 0", Check.block(three, 0, 0, 0, false));
+        CHECK.same("one more is made", "1 1 3 1 0", Check.block(three, 1, 2, 1, false));
+        CHECK.same("and one stays", "2 1 3 1 0", Check.block(three, 1, 1, 2, false));
+        CHECK.same("three", 3, three.count(2));
     }
 }

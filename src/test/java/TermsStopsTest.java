@@ -181,9 +181,7 @@ public final class TermsStopsTest {
     /** Three pointers, of which the k-th has 24 numbers and stands on a digit. */
     private static DrawnPaths fullOne(int k) {
         DrawnPaths paths = Pose.several(3);
-        while (paths.pointer(k, 4) < 24) {
-            Pose.act(paths, k, '6');
-        }
+        Pose.fill(paths, k);
         Pose.under(paths, k, '7');
         return paths;
     }
@@ -269,9 +267,7 @@ public final class TermsStopsTest {
         Pose.act(paths, 'f');
         Pose.act(paths, 'v');
         Pose.push(paths, 'q', 1, 5);
-        while (paths.pointer(1, 4) < 24) {
-            Pose.act(paths, 1, '6');
-        }
+        Pose.fill(paths, 1);
         CHECK.same("the block is kept", 1, paths.covers(1, 5));
         Pose.under(paths, 0, 'w');
         Pose.under(paths, 1, '7');

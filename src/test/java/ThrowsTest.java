@@ -243,7 +243,7 @@ public final class ThrowsTest {
     }
 
     private static void noSteps() {
-        int[] none = {0, -1, -1000, 1001, 1002, 65536, MIN, MAX};
+        int[] none = {0, -1, -1000, MIN, 1001, 1002, 65536};
         DrawnPaths paths = Check.started("1x");
         for (int n : none) {
             CHECK.noArgument("step(" + n + ")", () -> paths.step(n));
@@ -257,9 +257,14 @@ public final class ThrowsTest {
         CHECK.same("step(1000)", 0, paths.step(1000));
         CHECK.same("fast(1000)", 0, paths.fast(1000));
         CHECK.same("2002", 2002, paths.count(1));
-        DrawnPaths none2 = new DrawnPaths();
-        CHECK.noArgument("step(0) without a run", () -> none2.step(0));
-        CHECK.noArgument("fast(1001) without a run", () -> none2.fast(1001));
+        // A program that took so many would be done at once only where there is nothing to do.
+        DrawnPaths[] idle = {new DrawnPaths(), ended(), stopped()};
+        for (DrawnPaths one : idle) {
+            for (int n : new int[] {0, 1001, MAX}) {
+                CHECK.noArgument("step(" + n + ") with nothing to do", () -> one.step(n));
+                CHECK.noArgument("fast(" + n + ") with nothing to do", () -> one.fast(n));
+            }
+        }
     }
 
     private static void noPointer() {
