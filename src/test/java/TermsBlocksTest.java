@@ -586,5 +586,10 @@ public final class TermsBlocksTest {
         CHECK.same("one more is made", "1 1 3 1 0", Check.block(three, 1, 2, 1, false));
         CHECK.same("and one stays", "2 1 3 1 0", Check.block(three, 1, 1, 2, false));
         CHECK.same("three", 3, three.count(2));
+        three.put(1, 3, '5');
+        three.fast(1);
+        CHECK.same("a fourth", "8 1 3 1 0", Check.block(three, 1, 3, 1, false));
+        CHECK.same("that one stays still", "2 1 3 1 0", Check.block(three, 1, 1, 2, false));
+        CHECK.same("four", 4, three.count(2));
     }
 }
